@@ -6,6 +6,16 @@ final class PlainRow {
         lay(1024);
     }
 
+    /** A row of n cells with pieces that begin at the cells given. */
+    static PlainRow of(int n, int... begins) {
+        PlainRow row = new PlainRow();
+        row.lay(n);
+        for (int cell : begins) {
+            row.begun[cell] = true;
+        }
+        return row;
+    }
+
     private void lay(int n) {
         begun = new boolean[n];
         begun[0] = true;
