@@ -36,7 +36,18 @@ public final class FaceTest {
             }
         }
         calls.due("the face", shown.toString(), new TreeSet<>(FACE).toString());
+        calls.due("private methods with a public one's name", privateNamesakes().toString(), "[]");
         calls.due("the class", Modifier.toString(StartTable.class.getModifiers()), "public final");
         calls.end();
+    }
+
+    private static Set<String> privateNamesakes() {
+        Set<String> shown = new TreeSet<>();
+        Set<String> hidden = new TreeSet<>();
+        for (Method method : StartTable.class.getDeclaredMethods()) {
+            (Modifier.isPrivate(method.getModifiers()) ? hidden : shown).add(method.getName());
+        }
+        hidden.retainAll(shown);
+        return hidden;
     }
 }

@@ -71,6 +71,8 @@ public final class PromisesTest {
                 "start(31) = 0", "begins(6) = 0", "join(512) = 0");
         CALLS.run("promise 4: at a card's border", "cut(32) = 32", "cut(64) = 32", "join(31) = 64",
                 "start(1) = 0", "start(2) = 64", "join(0) = 1024", "start(2) = 0");
+        CALLS.run("promise 4: a last piece of one cell", "cut(1023) = 1023", "join(1023) = 0",
+                "join(1022) = 1024", "count(2) = 1");
         CALLS.refuses("promise 4", INDEX, CUT_ROW, "join(-1)", "join(100)", "join(127)",
                 "join(" + LEAST + ")", "join(" + MOST + ")");
         CALLS.refuses("promise 4: new", INDEX, NEW_ROW, "join(-1)", "join(1024)");
