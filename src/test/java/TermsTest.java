@@ -18,6 +18,7 @@ public final class TermsTest {
         {"space(100)", "cut(10)", "cut(32)", "cut(70)", "cut(99)"},
         {"cut(31)", "cut(32)", "cut(33)", "cut(992)", "cut(1023)"},
         {"make(40, 200)", "make(100, 300)", "make(1000, 1024)"},
+        {"cut(20)", "cut(40)", "cut(100)", "space(200)", "cut(150)"},
         {"space(16384)", "cut(5000)", "make(16352, 16383)", "join(0)", "cut(1)"}};
 
     public static void main(String[] args) {
